@@ -892,7 +892,7 @@ public final class StampDuchy {
                 return;
             }
             State start = draft.start;
-            // The document puts the fault at the person also where the work goes already.
+            // Where the work goes already, it is told of the person too that they can't hold it.
             if (start.holder[work] != NONE || start.load(person) >= draft.hands[person]) {
                 lexer.fail(Lexer.WRONG_NUMBER);
                 return;
@@ -997,7 +997,8 @@ public final class StampDuchy {
         private int part;
         private int depth;
         private int values;
-        final int[] codes = new int[2 * Tape.MOST];
+        /** Each byte of a text gives one code at most, and its end one more. */
+        final int[] codes = new int[Tape.MOST + 1];
         int length;
 
         RuleReader(Tape tape) {
