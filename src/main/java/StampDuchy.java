@@ -781,6 +781,7 @@ public final class StampDuchy {
         static final int PERSON = 2;
         static final int WORK = 3;
         static final int HELD = 4;
+        static final int AFTER = 5;
 
         private final Lexer lexer;
         final Land draft = new Land();
@@ -793,40 +794,40 @@ public final class StampDuchy {
         int read() {
             lexer.restart();
             draft.clear();
-            for (int clause = 0; clause <= MOST_CLAUSES && lexer.fault == 0; clause++) {
-                readClause(clause);
-                if (lexer.fault == 0) {
-                    lexer.advance();
-                    if (lexer.token == Lexer.ENDING) {
-                        return 0;
-                    }
-                    if (!lexer.isSign(';')) {
-                        lexer.fail(Lexer.MISPLACED);
-                    }
+            boolean more = true;
+            for (int clauses = 0; more && clauses <= MOST_CLAUSES; clauses++) {
+                switch (openClause(clauses)) {
+                    case DUCHY: readDuchy(); break;
+                    case KIND: readKind(); break;
+                    case PERSON: readPerson(); break;
+                    case WORK: readWork(); break;
+                    case HELD: readHeld(); break;
+                    case AFTER: readAfter(); break;
+                    default: break;
                 }
+                more = lexer.fault == 0 && hasMore();
             }
             return lexer.fault;
         }
 
-        private void readClause(int clausesBefore) {
+        /** Which clause it is; NONE behind a fault. */
+        private int openClause(int clausesBefore) {
             lexer.advance();
             int clause = lexer.wordAmong(CLAUSES);
             if (clause == NONE) {
                 lexer.fail(Lexer.MISPLACED);
-                return;
-            }
-            if (clausesBefore >= MOST_CLAUSES || !canStand(clause)) {
+            } else if (clausesBefore >= MOST_CLAUSES || !canStand(clause)) {
                 lexer.fail(Lexer.WRONG_CLAUSE);
-                return;
             }
-            switch (clause) {
-                case DUCHY: readDuchy(); break;
-                case KIND: readKind(); break;
-                case PERSON: readPerson(); break;
-                case WORK: readWork(); break;
-                case HELD: readHeld(); break;
-                default: readAfter(); break;
+            return lexer.fault == 0 ? clause : NONE;
+        }
+
+        private boolean hasMore() {
+            lexer.advance();
+            if (!lexer.endsClause()) {
+                lexer.fail(Lexer.MISPLACED);
             }
+            return lexer.isSign(';');
         }
 
         private boolean canStand(int clause) {
@@ -1040,9 +1041,13 @@ public final class StampDuchy {
                     settleDownTo(FACT_LEVEL);
                     state = HAS_FACT;
                 }
+                if (state == WANTS_FACT && !opensDeeper()) {
+                    part = LEFT_SUM;
+                    state = WANTS_VALUE;
+                }
                 switch (state) {
                     case WANTS_VALUE: readValue(); break;
-                    case WANTS_FACT: openFact(); break;
+                    case WANTS_FACT: deepen(); break;
                     case HAS_VALUE: goOnFromValue(); break;
                     default: goOnFromFact(); break;
                 }
@@ -1069,23 +1074,16 @@ public final class StampDuchy {
             values++;
         }
 
-        private void openFact() {
-            if (lexer.isSign('[')) {
-                deepen(Rule.OPEN);
-            } else if (lexer.wordAmong(LINKS) == LINK_NOT) {
-                deepen(Rule.NOT);
-            } else {
-                part = LEFT_SUM;
-                readValue();
-            }
+        private boolean opensDeeper() {
+            return lexer.isSign('[') || lexer.wordAmong(LINKS) == LINK_NOT;
         }
 
-        private void deepen(int operation) {
+        private void deepen() {
             if (depth >= MOST_DEEP) {
                 lexer.fail(Lexer.TOO_DEEP);
             }
             depth++;
-            push(operation);
+            push(lexer.isSign('[') ? Rule.OPEN : Rule.NOT);
         }
 
         private static boolean isOfSums(int operation) {
