@@ -980,7 +980,6 @@ public final class StampDuchy {
         /** By operation: what binds closer has the higher level; an open bracket holds all back. */
         static final int[] LEVEL = {9, 9, 6, 6, 6, 5, 5, 4, 4, 4, 4, 4, 3, 2, 1, 0};
         static final int SUM_LEVEL = 5;
-        static final int FACT_LEVEL = 3;
         static final int TEST_LEVEL = 1;
         static final int WANTS_VALUE = 0;
         static final int WANTS_FACT = 1;
@@ -1038,7 +1037,6 @@ public final class StampDuchy {
             for (int i = 0; i <= Tape.MOST && state != HAS_CLAUSE && lexer.fault == 0; i++) {
                 lexer.advance();
                 if (state == HAS_VALUE && endsFact()) {
-                    settleDownTo(FACT_LEVEL);
                     state = HAS_FACT;
                 }
                 if (state == WANTS_FACT && !opensDeeper()) {
@@ -1155,7 +1153,6 @@ public final class StampDuchy {
             }
             waits--;
             depth--;
-            settleDownTo(FACT_LEVEL);
             state = HAS_FACT;
         }
 

@@ -20,6 +20,7 @@ public final class ActTest {
         seeds();
         images();
         imagesOfAll();
+        imagesKeepTheirOwn();
         DUE.finish();
     }
 
@@ -317,7 +318,7 @@ public final class ActTest {
         DUE.is("logs are no act's", d.count(11), 1);
         Due.pass(d, 6);
         d.begin(2, 0);
-        d.undo();
+        DUE.is("undo the begin", d.undo(), 6);
         DUE.is("price back", d.person(0, 0), 50);
         DUE.is("chest back", d.count(1), 100);
         Due.rule(d, "take 1");
@@ -411,5 +412,39 @@ public final class ActTest {
         Due.duchy(d, "duchy 1 1;kind 1 1");
         DUE.is("an image outlives its duchy", d.back(2), 0);
         DUE.is("works", d.count(4), 4);
+    }
+
+    /** Images keep what was done and logged, also when the object has done and logged other things since. */
+    private static void imagesKeepTheirOwn() {
+        StampDuchy d = new StampDuchy();
+        d.image(3);
+        Due.duchy(d, Due.HANDING);
+        Due.rule(d, "take person");
+        d.log(0, 1, 2);
+        d.log(30, 0, -1);
+        Due.pass(d, 2);
+        d.drop(2);
+        d.image(0);
+        d.back(3);
+        Due.duchy(d, Due.TOWN);
+        d.log(9, 2, 0);
+        d.log(8, 3, 1);
+        Due.pass(d, 19);
+        d.back(0);
+        DUE.is("ruled by its logs", d.ruled(0), 1);
+        DUE.is("rule 0", d.ruled(1), 0);
+        d.log(0, 1, 1);
+        DUE.is("a log more", d.ruled(0), 0);
+        DUE.is("logs", d.count(11), 3);
+        DUE.is("undo the drop", d.undo(), 2);
+        DUE.is("held", d.work(2, 1), 2);
+        DUE.is("undo an hour", d.undo(), 1);
+        DUE.is("purse in hour 1", d.person(2, 0), 27);
+        DUE.is("undo all", d.undo(), 0);
+        DUE.is("held at the begin", d.work(1, 1), 0);
+        DUE.is("purse at the begin", d.person(2, 0), 20);
+        d.back(0);
+        DUE.is("logs of the image", d.count(11), 2);
+        DUE.is("it is as it was", d.ruled(1), 0);
     }
 }

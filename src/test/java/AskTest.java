@@ -66,6 +66,8 @@ public final class AskTest {
         DUE.is("told by the hour of all", d.stops(0), 8);
         DUE.is("ahead of it", d.ahead(0, 3, 0), 1);
         DUE.is("behind it", d.ahead(0, 4, 0), -1);
+        d = Due.ruled("take 1 if awake=3", "duchy 0 0;kind 0 1;person 0 20 1 1;person 0 23 1 1;work 0;held 0 0");
+        DUE.is("awake in hour 20, and not in 23", d.stops(0), 23);
         // A rule may let it stop only in hour 199, or in 200: 200 hours are looked at.
         d = Due.ruled("take 1 if hour<199", "duchy 0 0;kind 0 0;person 0 7 1 1;person 0 8 1 1;work 0;held 0 0");
         DUE.is("in hour 199", d.stops(0), 199);
@@ -182,6 +184,9 @@ public final class AskTest {
         DUE.is("what 2", d.most(1, 2), -1);
         DUE.is("what -1", d.most(1, -1), -1);
         DUE.is("nobody", Due.told("duchy 0 0").most(48, 0), 0);
+        d = Due.told("duchy 0 0;person 0 1 1 2;person 0 0 0 1");
+        DUE.is("two hours", d.most(2, 0), 1);
+        DUE.is("the second", d.most(2, 1), 1);
     }
 
     private static void chainsAre(String text, int... due) {

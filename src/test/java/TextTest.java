@@ -115,6 +115,12 @@ public final class TextTest {
         duchyFault("   ", 3, 0);
         duchyFault("dutchy 0 0", 0, 0);
         duchyFault("Duchy 0 0", 0, 0);
+        duchyFault("duchyz 0 0", 0, 0);
+        duchyFault("duchya 0 0", 0, 0);
+        duchyFault("duchy{ 0 0", 5, 0);
+        duchyFault("duchy` 0 0", 5, 0);
+        duchyFault("duchy 0: 0", 7, 0);
+        duchyFault("duchy 0/ 0", 7, 0);
         duchyFault("duchy", 5, 0);
         duchyFault("duchy  ", 7, 0);
         duchyFault("duchy 0", 7, 0);
@@ -187,6 +193,9 @@ public final class TextTest {
         DUE.is("nothing goes", d.count(8), 0);
         DUE.is("no after", d.work(0, 4), 0);
         DUE.is("never stopped", d.work(0, 3), 0);
+        Due.duchy(d, "duchy 0 0;kind 0 0;work 0;work 0;work 0;after 2 1");
+        Due.duchy(d, "duchy 0 0;kind 0 0;work 0;work 0;work 0");
+        DUE.is("no after of the one before", d.work(2, 4), 0);
     }
 
     private static void ruleFault(String text, int place, int code) {
@@ -258,6 +267,11 @@ public final class TextTest {
     }
 
     private static void ruleLimits() {
+        // A fault leaves nothing behind for the text that comes next.
+        StampDuchy d = new StampDuchy();
+        Due.rule(d, "take 1+1*1 if " + times("[", 10) + "not ");
+        Due.rule(d, "take " + times("1+", 61));
+        DUE.is("a rule behind faults", Due.rule(d, "take 1+1+1 if " + times("not ", 10) + times("1=1 or ", 18) + "1=1"), 0);
         ruleIs("take 99999");
         ruleIs("  take  person  if  not[hour>=1 or awake<=2]and kind>3 ;take1if2=2  ");
         ruleIs(times("take 1;", 11) + "take 1");
