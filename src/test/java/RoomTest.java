@@ -22,12 +22,12 @@ public final class RoomTest {
         for (int i = 0; i < 20; i++) {
             everyAct(d);
         }
-        DUE.is("acts make nothing", (made() - before - nothing) / 2000, 0);
+        DUE.is("acts make nothing", (made() - before - nothing) / 20000, 0);
         before = made();
         for (int i = 0; i < 20; i++) {
             everyQuestion(d);
         }
-        DUE.is("questions make nothing", (made() - before - nothing) / 2000, 0);
+        DUE.is("questions make nothing", (made() - before - nothing) / 20000, 0);
         before = made();
         StampDuchy other = new StampDuchy();
         long size = made() - before - nothing;
