@@ -246,7 +246,8 @@ public final class AskTest {
         tariffIs(people + ";work 1;work 0;work 1;work 0;work 0", 1, 12, 12);
         tariffIs(people + ";work 0;work 0;work 0;held 1 0", 0, 12, 12);
         tariffIs(people + ";work 0;held 0 0", 0, 0, 0);
-        tariffIs("duchy 0 0;kind 1 0;person 500 0 0 1;person 99 0 0 1;person 98 0 0 1;work 0;work 0;work 0", 0, 98, 294);
+        tariffIs("duchy 0 0;kind 1 0;person 500 0 0 1;person 99 0 0 1;person 98 0 0 1;work 0;work 0;work 0", 0, 98,
+            294);
         tariffIs("duchy 0 0;kind 1 0;person 500 0 0 1;work 0;work 0", 0, 99, 99);
         StampDuchy d = Due.told(people);
         DUE.is("no kind", d.tariff(2, 0), -1);

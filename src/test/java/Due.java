@@ -6,6 +6,10 @@ final class Due {
     /** Person 0 falls asleep in hour 0, and has to hand on work 1; 1 or 2 may take it. */
     static final String HANDING = "duchy 0 0;kind 12 3;kind 5 7;person 40 0 1 1;person 30 5 2 2;"
         + "person 20 0 0 3;work 0;work 1;work 1;held 1 0;held 2 2";
+    /** As much of everything as there can be; each sleeper hands on what is held. */
+    static final String FULL = "duchy 5 100;kind 10 1;kind 20 2;kind 30 3;kind 40 4;kind 50 5;person 100 22 8 2;"
+        + "person 90 6 4 2;person 80 12 2 2;person 70 0 0 3;work 0;work 1;work 2;work 3;work 4;work 0;"
+        + "held 0 1;held 1 1;held 2 2;held 3 2;held 4 3;held 5 3;after 1 0;after 2 1;after 3 2;after 4 3;after 5 4";
 
     private int wrong;
     private int asked;
@@ -59,6 +63,14 @@ final class Due {
     static int rule(StampDuchy duchy, String text) {
         tape(duchy, text);
         return duchy.rule();
+    }
+
+    static String times(String text, int number) {
+        StringBuilder all = new StringBuilder();
+        for (int i = 0; i < number; i++) {
+            all.append(text);
+        }
+        return all.toString();
     }
 
     /** What duchy or rule answer to a fault. */

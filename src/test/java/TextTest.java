@@ -258,42 +258,36 @@ public final class TextTest {
         ruleFault("take 1" + (char) 200, 6, 0);
     }
 
-    private static String times(String text, int number) {
-        StringBuilder all = new StringBuilder();
-        for (int i = 0; i < number; i++) {
-            all.append(text);
-        }
-        return all.toString();
-    }
-
     private static void ruleLimits() {
         // A fault leaves nothing behind for the text that comes next.
         StampDuchy d = new StampDuchy();
-        Due.rule(d, "take 1+1*1 if " + times("[", 10) + "not ");
-        Due.rule(d, "take " + times("1+", 61));
-        DUE.is("a rule behind faults", Due.rule(d, "take 1+1+1 if " + times("not ", 10) + times("1=1 or ", 18) + "1=1"), 0);
+        Due.rule(d, "take 1+1*1 if " + Due.times("[", 10) + "not ");
+        Due.rule(d, "take " + Due.times("1+", 61));
+        DUE.is("a rule behind faults", Due.rule(d, "take 1+1+1 if " + Due.times("not ", 10) + Due.times("1=1 or ",
+            18) + "1=1"), 0);
         ruleIs("take 99999");
         ruleIs("  take  person  if  not[hour>=1 or awake<=2]and kind>3 ;take1if2=2  ");
-        ruleIs(times("take 1;", 11) + "take 1");
-        ruleFault(times("take 1;", 12) + "take 1", 84, 4);
-        ruleFault(times("take 1;", 12) + "tak 1", 84, 0);
-        ruleFault(times("take 1;", 12), 84, 0);
-        ruleIs("take 1 if " + times("[", 10) + "1=1" + times("]", 10));
-        ruleIs("take 1 if " + times("not ", 10) + "1=1");
-        ruleIs("take 1 if " + times("not ", 10) + "1=1 and " + times("not ", 10) + "1=1;take 1 if "
-            + times("[", 10) + "1=1" + times("]", 10) + " or " + times("not [", 5) + "1=1" + times("]", 5));
-        ruleFault("take 1 if " + times("[", 11) + "1=1", 20, 2);
-        ruleFault("take 1 if " + times("not ", 11) + "1=1", 50, 2);
-        ruleFault("take 1 if " + times("not [", 5) + "not 1=1", 35, 2);
-        ruleFault("take 1 if " + times("[", 5) + "1=1 and " + times("[", 6), 28, 2);
+        ruleIs(Due.times("take 1;", 11) + "take 1");
+        ruleFault(Due.times("take 1;", 12) + "take 1", 84, 4);
+        ruleFault(Due.times("take 1;", 12) + "tak 1", 84, 0);
+        ruleFault(Due.times("take 1;", 12), 84, 0);
+        ruleIs("take 1 if " + Due.times("[", 10) + "1=1" + Due.times("]", 10));
+        ruleIs("take 1 if " + Due.times("not ", 10) + "1=1");
+        ruleIs("take 1 if " + Due.times("not ", 10) + "1=1 and " + Due.times("not ", 10) + "1=1;take 1 if "
+            + Due.times("[", 10) + "1=1" + Due.times("]", 10) + " or " + Due.times("not [",
+                5) + "1=1" + Due.times("]", 5));
+        ruleFault("take 1 if " + Due.times("[", 11) + "1=1", 20, 2);
+        ruleFault("take 1 if " + Due.times("not ", 11) + "1=1", 50, 2);
+        ruleFault("take 1 if " + Due.times("not [", 5) + "not 1=1", 35, 2);
+        ruleFault("take 1 if " + Due.times("[", 5) + "1=1 and " + Due.times("[", 6), 28, 2);
         // 60 together: 1 value taken, then facts of three each
-        ruleIs("take 1+1+1 if " + times("1=1 or ", 18) + "1=1");
-        ruleFault("take 1+1+1 if " + times("1=1 or ", 18) + "1=1+1", 144, 3);
-        ruleFault("take 1+1+1+1 if " + times("1=1 or ", 18) + "1=1", 144, 3);
-        ruleFault("take 1+1+1+1+1 if " + times("1=1 or ", 18) + "1=1", 145, 3);
-        ruleFault("take 1+1+1 if " + times("1=1 or ", 18) + "1=1;take hour", 149, 3);
-        ruleFault("take 1+1+1 if " + times("1=1 or ", 18) + "1=1;take hou", 149, 0);
-        ruleFault("take 1+1+1 if " + times("1=1 or ", 18) + "1=1;take 123456", 149, 1);
+        ruleIs("take 1+1+1 if " + Due.times("1=1 or ", 18) + "1=1");
+        ruleFault("take 1+1+1 if " + Due.times("1=1 or ", 18) + "1=1+1", 144, 3);
+        ruleFault("take 1+1+1+1 if " + Due.times("1=1 or ", 18) + "1=1", 144, 3);
+        ruleFault("take 1+1+1+1+1 if " + Due.times("1=1 or ", 18) + "1=1", 145, 3);
+        ruleFault("take 1+1+1 if " + Due.times("1=1 or ", 18) + "1=1;take hour", 149, 3);
+        ruleFault("take 1+1+1 if " + Due.times("1=1 or ", 18) + "1=1;take hou", 149, 0);
+        ruleFault("take 1+1+1 if " + Due.times("1=1 or ", 18) + "1=1;take 123456", 149, 1);
     }
 
     private static void sixRules() {
