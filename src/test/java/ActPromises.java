@@ -23,6 +23,7 @@ final class ActPromises {
         drops();
         dropRefused();
         undos();
+        undoOfAStop();
         undoRefused();
         images();
         imageRefused();
@@ -181,6 +182,20 @@ final class ActPromises {
             e.is("undone", d.undo(), left);
             e.unchanged(d, before[left]);
         }
+    }
+
+    private void undoOfAStop() {
+        e.promise(15, "The last ACT is UNDONE");
+        StampDuchy d = Due.told("duchy 2 0;kind 0 3;person 9 1 1 2;work 0;work 0;held 0 0");
+        d.sneak(1, 0);
+        String first = Edges.sight(d);
+        e.is("an hour with a clerk", d.hour(), 0);
+        String second = Edges.sight(d);
+        e.is("an hour in which both stop", d.hour(), 2);
+        e.is("undone", d.undo(), 2);
+        e.unchanged(d, second);
+        e.is("undone too", d.undo(), 1);
+        e.unchanged(d, first);
     }
 
     private void undoRefused() {

@@ -23,6 +23,8 @@ final class DuchyTerms {
         afterAnother();
         afterToldAlready();
         numbersInTheOrderTold();
+        numbersBehindTheLast();
+        numbersOfTheDuchyThatWas();
         hourZero();
     }
 
@@ -222,6 +224,32 @@ final class DuchyTerms {
         e.is("mixed: the second person", d.person(1, 0), 2);
         e.is("mixed: the second kind", d.kind(1, 0), 2);
         e.is("mixed: the third work", d.work(2, 0), 1);
+    }
+
+    private void numbersBehindTheLast() {
+        e.term("I", "KINDS 0 to 4, PEOPLE 0 to 3, WORKS 0 to 5,");
+        e.duchyFault("duchy 0 0" + Due.times(";kind 0 0", 5) + ";work |5", 1);
+        e.duchyFault("duchy 0 0;kind 0 0;work 0" + Due.times(";person 0 0 0 1", 4) + ";held 0 |4", 1);
+        e.duchyFault(Due.FULL + ";held |6 0", 1);
+        e.duchyFault(Due.FULL + ";after |6 0", 1);
+        e.duchyFault(Due.FULL + ";after 0 |6", 1);
+        e.is("the last of each", Due.told("duchy 0 0" + Due.times(";kind 0 0", 5) + Due.times(";person 0 0 0 1", 4)
+            + Due.times(";work 4", 6) + ";held 5 3;after 5 4;after 4 5").work(5, 1), 3);
+    }
+
+    private void numbersOfTheDuchyThatWas() {
+        e.term("I", "a WORK, a PERSON that were told:");
+        // What another duchy, or a text with a fault, told is not told.
+        StampDuchy d = Due.told(Due.FULL);
+        Due.duchy(d, Due.FULL + ";");
+        String one = "duchy 0 0;kind 0 0;person 0 0 0 1;work 0;";
+        for (String clause : new String[] {"work |1", "held 0 |1", "held |1 0", "after 0 |1", "after |1 0"}) {
+            String text = one + clause;
+            e.is(text, Due.duchy(d, text.replace("|", "")), Due.fault(text.indexOf('|'), 1));
+        }
+        e.is("nor held", Due.duchy(d, one + "held 0 0"), 1);
+        e.is("by anybody else", d.person(0, 4), 1);
+        e.is("nor after anything", d.work(0, 4), 0);
     }
 
     private void hourZero() {

@@ -24,6 +24,7 @@ final class LogTerms {
         nightsByNumber();
         nightsTold();
         images();
+        imagesOfLogs();
         imagesGoneBackTo();
         constants();
     }
@@ -340,19 +341,64 @@ final class LogTerms {
         }
     }
 
+    private void imagesOfLogs() {
+        e.term("III", "all but the RULES and the TAPE, as it is");
+        StampDuchy d = Due.told(FOUR);
+        Due.rule(d, "take person");
+        Due.rule(d, "take person if work=1;take 1");
+        d.log(9, 1, 3);
+        d.image(1);
+        d.log(NONE, 0, 0);
+        d.log(0, 0, 1);
+        d.log(60, 1, 1);
+        d.image(2);
+        d.log(NONE, 0, 0);
+        d.back(1);
+        e.is("by work 1: two rules", d.ruled(0), 2);
+        e.is("the first of them", d.ruled(1), 0);
+        d.log(0, 0, 1);
+        e.is("with one more: rule 1", d.ruled(1), 1);
+        d.back(2);
+        e.is("two logs", d.count(11), 2);
+        e.is("none alone", d.ruled(0), 1);
+        d.back(1);
+        e.is("one log", d.count(11), 1);
+        e.is("two rules again", d.ruled(0), 2);
+        // The hours of logs: it is with 1 behind 12 alone.
+        d = Due.told("duchy 0 0;kind 0 0;person 0 12 1 1;person 0 13 1 1;work 0;held 0 0");
+        d.log(12, 0, 1);
+        d.image(0);
+        d.log(NONE, 0, 0);
+        d.log(11, 0, 1);
+        d.image(1);
+        d.back(0);
+        e.is("behind 12", d.ruled(0), 1);
+        d.back(1);
+        e.is("not behind 11", d.ruled(0), 0);
+        // How often a work stopped is of the image too.
+        d = Due.told("duchy 0 0;kind 0 0;person 0 0 1 1;work 0;held 0 0");
+        d.image(0);
+        d.hour();
+        d.image(1);
+        d.back(0);
+        e.is("not stopped yet", d.work(0, 3), 0);
+        d.back(1);
+        e.is("stopped", d.work(0, 3), 1);
+    }
+
     private void imagesGoneBackTo() {
         e.term("III", "gone back to, it is as it was (these stay).");
         StampDuchy d = Due.ruled("take 1", Due.FULL);
-        Due.pass(d, 20);
+        Due.pass(d, 27);
         d.image(0);
         String before = Edges.sight(d);
         // Whatever is done between, twenty acts and another duchy among it.
-        Due.pass(d, 3);
         d.drop(5);
+        Due.pass(d, 22);
         d.back(0);
         e.unchanged(d, before);
         e.is("an act of it undone", d.undo(), 19);
-        e.is("hour 19", d.count(7), 19);
+        e.is("hour 26", d.count(7), 26);
         d.back(0);
         e.unchanged(d, before);
         Due.duchy(d, "duchy 0 0");
@@ -363,8 +409,8 @@ final class LogTerms {
         e.is("the tape stays", d.count(14), 20);
         for (int left = 19; left >= 0; left--) {
             e.is("all twenty can be undone", d.undo(), left);
+            e.is("one by one", d.count(7), 7 + left);
         }
-        e.is("at the begin again", d.count(7), 0);
     }
 
     private void constants() {

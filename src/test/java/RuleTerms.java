@@ -115,6 +115,11 @@ final class RuleTerms {
             handsTo("take 1 if 4" + all[i] + "5", below[i] ? 1 : StampDuchy.NONE);
             handsTo("take 1 if 5" + all[i] + "5", equal[i] ? 1 : StampDuchy.NONE);
             handsTo("take 1 if 6" + all[i] + "5", above[i] ? 1 : StampDuchy.NONE);
+            handsTo("take 1 if not 4" + all[i] + "5", below[i] ? StampDuchy.NONE : 1);
+            handsTo("take 1 if not 5" + all[i] + "5", equal[i] ? StampDuchy.NONE : 1);
+            handsTo("take 1 if not 6" + all[i] + "5", above[i] ? StampDuchy.NONE : 1);
+            handsTo("take 1 if 1=1 and 4" + all[i] + "5", below[i] ? 1 : StampDuchy.NONE);
+            handsTo("take 1 if 6" + all[i] + "5 and 1=1", above[i] ? 1 : StampDuchy.NONE);
         }
         e.ruleFault("take 1 if 1< |=1", 0);
         e.ruleFault("take 1 if 1=|<1", 0);
@@ -154,6 +159,15 @@ final class RuleTerms {
 
     private void wordsGoOn() {
         e.term("I", "WORDS (small letters, as far as these go on)");
+        for (char letter = 'a'; letter <= 'z'; letter++) {
+            e.ruleFault("|take" + letter + " 1", 0);
+            e.ruleFault("take |hour" + letter, 0);
+            e.duchyFault("|duchy" + letter + " 0 0", 0);
+        }
+        for (char sign : new char[] {'`', '{', '@', '[', 'A', 'Z', '_', 223, 228, 255}) {
+            e.ruleFault("take|" + sign + " 1", 0);
+            e.duchyFault("duchy|" + sign + " 0 0", 0);
+        }
         e.ruleFault("take |hours", 0);
         e.ruleFault("take |hou", 0);
         e.ruleFault("take |houR", 0);

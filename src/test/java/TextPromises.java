@@ -218,6 +218,12 @@ final class TextPromises {
         e.unchanged(d, before);
         Due.rule(d, "take person");
         e.is("the next one is 0", d.force(0), NONE);
+        // A fault within brackets, sums and sixty values leaves nothing behind.
+        Due.rule(d, "take 1+1*1 if " + Due.times("[", 10) + "not ");
+        Due.rule(d, "take 1 if " + Due.times("not ", 10) + "1=");
+        Due.rule(d, "take " + Due.times("1+", 61));
+        e.is("as deep and as many", Due.rule(d, "take 1+1+1 if " + Due.times("not ", 10) + Due.times("1=1 or ", 18)
+            + Due.times("[", 10) + "1=1" + Due.times("]", 10)), 1);
         e.is("and reads right", d.ahead(1, 1, 0), 2);
         e.is("a fault then", Due.rule(d, "take"), Due.fault(4, 0));
         e.is("the first one is as it was", d.ahead(1, 1, 0), 2);
